@@ -67,6 +67,7 @@ public final class PokerEveningPromises {
         keeping();
         counting();
         refusalsChangeNothing();
+        askedInAnyOrder();
         System.out.println(asked - wrong + " answers of " + asked + " are as due");
         if (wrong != 0) {
             System.exit(1);
@@ -535,6 +536,11 @@ public final class PokerEveningPromises {
         // The iron has to cool in another hand: 8; 5; 9; 17 lets go, but all are told.
         x = laid("t0,10;t0,40;f1;c0,0,0,8;c0,0,0,7;c0,0,0,8;c1,0,1,1;", 2);
         orderIs(x, 4, new int[] {0, 3, 1, 2});
+        // Asked again, once things are otherwise.
+        x.strike(3);
+        orderIs(x, 2, new int[] {0, 1, 2});
+        x.turn(0);
+        orderIs(x, 3, new int[] {0, 1, 2});
         x = laid("t0,9;f1;", 1);
         due("order(-1) without claims", x.order(-1), 0);
         due("order(0) without claims", x.order(0), BAD);
@@ -611,6 +617,12 @@ public final class PokerEveningPromises {
         due("holds(1, 0), itself", x.holds(1, 0), 1);
         due("holds(1, 1), itself", x.holds(1, 1), 0);
         due("claim(0, 0), as before", x.claim(0, 0), 1);
+        // All five let go; one who holds for another lets that one go free.
+        x = laid("t0,1;t0,1;t0,1;t0,1;t0,1;f1;c0,0,0,9;c1,0,0,9;c2,0,0,9;c3,0,0,9;c4,0,0,9;", 5);
+        due("holds(0, 0) of five", x.holds(0, 0), 1);
+        due("holds(0, 1) of five", x.holds(0, 1), 4);
+        due("holds(4, 0) of five", x.holds(4, 0), 0);
+        x = laid("t0,9;t0,9;f1;", 2);
         due("holds(2, 0)", x.holds(2, 0), BAD);
         due("holds(0, 2)", x.holds(0, 2), BAD);
         for (int wild : WILD) {
@@ -950,6 +962,60 @@ public final class PokerEveningPromises {
         }
         due("behind refusals: undo()", x.undo(), 0);
         due("behind refusals: fact(0)", x.fact(0), 1);
+    }
+
+    /** No answer has anything of the question that was asked ahead of it. */
+    private static void askedInAnyOrder() {
+        PokerEvening x = new PokerEvening();
+        x.seen(1, 2);
+        for (int ahead = 0; ahead < 9; ahead++) {
+            askAhead(x, ahead);
+            due("drops(1) behind question " + ahead, x.drops(1), 2);
+            askAhead(x, ahead);
+            due("told() behind question " + ahead, x.told(), 63);
+            askAhead(x, ahead);
+            due("hot(4) behind question " + ahead, x.hot(4), 13);
+            askAhead(x, ahead);
+            due("hottest() behind question " + ahead, x.hottest(), 13);
+            askAhead(x, ahead);
+            due("count(5) behind question " + ahead, x.count(5), 6);
+            askAhead(x, ahead);
+            due("count(6) behind question " + ahead, x.count(6), 2);
+            askAhead(x, ahead);
+            due("order(4) behind question " + ahead, x.order(4), 5);
+            askAhead(x, ahead);
+            due("leave(1, 1) behind question " + ahead, x.leave(1, 1), 2);
+            askAhead(x, ahead);
+            due("holds(1, 1) behind question " + ahead, x.holds(1, 1), 1);
+            askAhead(x, ahead);
+            due("worlds(1) behind question " + ahead, x.worlds(1), 5);
+            askAhead(x, ahead);
+            due("kinds(0) behind question " + ahead, x.kinds(0), 3);
+            askAhead(x, ahead);
+            due("grips(1, 0) behind question " + ahead, x.grips(1, 0), 10);
+            askAhead(x, ahead);
+            due("likely(1, 5, 1) behind question " + ahead, x.likely(1, 5, 1), 4);
+            PokerEvening other = new PokerEvening();
+            for (int what = 0; what < 3; what++) {
+                askAhead(x, ahead);
+                due("evenings(77, 3, " + what + ") behind question " + ahead, x.evenings(77, 3, what),
+                        other.evenings(77, 3, what));
+            }
+        }
+    }
+
+    private static void askAhead(PokerEvening x, int which) {
+        switch (which) {
+            case 0: x.fault(); break;
+            case 1: x.order(0); break;
+            case 2: x.leave(2, 1); break;
+            case 3: x.holds(0, 0); break;
+            case 4: x.worlds(0); break;
+            case 5: x.next(0, 1); break;
+            case 6: x.kinds(2); break;
+            case 7: x.grips(2, 0); break;
+            default: x.evenings(3, 60, 0); break;
+        }
     }
 
     private static int[] countsOf(PokerEvening x) {
