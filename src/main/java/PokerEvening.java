@@ -399,13 +399,14 @@ public final class PokerEvening {
     }
 
     private boolean letsGoWithout(int t, int left) {
-        evening.begin();
+        Iron iron = evening.iron;
+        iron.cool();
         for (int c = 0; c < room.claimCount; c++) {
             if (bit(left, c) == 0) {
-                evening.hear(room, c);
+                iron.take(room, c);
             }
         }
-        return bit(evening.iron.gone, t) == 1;
+        return bit(iron.gone, t) == 1;
     }
 
     private int goneIfHeldBy(int t, int other) {
@@ -660,18 +661,6 @@ public final class PokerEvening {
             }
             return many;
         }
-
-        /** By how much the iron is hotter once its teller has told a claim. */
-        private int heating(int c) {
-            boolean isFalse = isFalse(c);
-            int plain = isFalse ? at(weightOf, c) : 1;
-            switch (at(kindOf, at(tellerOf, c))) {
-                case COLD: return plain / 2;
-                case CHILD: return isFalse ? 2 * plain : plain;
-                case OLD: return plain + 1;
-                default: return plain;
-            }
-        }
     }
 
     /** The iron as it goes from hand to hand: all that the next claim depends on. */
@@ -704,7 +693,7 @@ public final class PokerEvening {
             if (holder != t) {
                 heat /= 2;
             }
-            heat += room.heating(c);
+            heat += heating(at(room.kindOf, t), room.isFalse(c), at(room.weightOf, c));
             holder = t;
             told |= 1 << c;
             int hot = heat;
@@ -713,6 +702,17 @@ public final class PokerEvening {
                 heat = 0;
             }
             return hot;
+        }
+
+        /** By how much the iron is hotter once one of a kind has told a claim. */
+        private static int heating(int kind, boolean isFalse, int weight) {
+            int plain = isFalse ? weight : 1;
+            switch (kind) {
+                case COLD: return plain / 2;
+                case CHILD: return isFalse ? 2 * plain : plain;
+                case OLD: return plain + 1;
+                default: return plain;
+            }
         }
     }
 
@@ -726,7 +726,13 @@ public final class PokerEvening {
         private void hold(Room room) {
             begin();
             for (int c = 0; c < room.claimCount; c++) {
-                hear(room, c);
+                int goneBefore = iron.gone;
+                int hot = iron.take(room, c);
+                put(hotOf, c, hot);
+                most = Math.max(most, hot);
+                if (iron.gone != goneBefore) {
+                    put(dropOf, at(room.tellerOf, c), c);
+                }
             }
         }
 
@@ -735,16 +741,6 @@ public final class PokerEvening {
             most = 0;
             for (int t = 0; t < MOST_TELLERS; t++) {
                 put(dropOf, t, NOT_AT_ALL);
-            }
-        }
-
-        private void hear(Room room, int c) {
-            int goneBefore = iron.gone;
-            int hot = iron.take(room, c);
-            put(hotOf, c, hot);
-            most = Math.max(most, hot);
-            if (iron.gone != goneBefore) {
-                put(dropOf, at(room.tellerOf, c), c);
             }
         }
     }
