@@ -742,6 +742,9 @@ public final class PokerEveningPromises {
         // The more of both parts counts, not the less: by fact 0 it lets go in 3 of 4, by fact 1 in 2.
         x = laid("t0,9;f0;f0;c0,1,1,9;", 1);
         due("next(0, 9)", x.next(0, 9), 1);
+        // An old one is by 2 hotter, so or not: it lets go in all 64 worlds, by whichever fact.
+        x = laid("t3,3;f0;f0;f0;f0;f0;f0;c0,0,0,1;", 1);
+        due("next(0, 1), in all worlds", x.next(0, 1), 0);
     }
 
     // Promise 26
