@@ -657,6 +657,18 @@ public final class PokerEveningBounds {
         orderIs(laid("t0,9;f1;c0,0,0,20;" + "c0,0,1,1;".repeat(6)), 7, 1, 2, 3, 4, 5, 6, 0);
         // Teller 1 lets go in any case, and has to do so behind its other claim.
         orderIs(laid("t0,40;t0,9;f1;c1,0,0,10;c0,0,1,1;c1,0,1,1;"), 3, 1, 2, 0);
+        // By half as it changes hands, and only then: 5; 2 and 4, just the grip; 9 lets go at the last.
+        orderIs(laid("t0,11;t0,6;f1;c0,0,0,5;c1,0,0,4;c1,0,0,3;"), 3, 0, 1, 2);
+        // In one hand any two are more than 9.
+        orderIs(laid("t0,9;t0,9;f1;c1,0,0,6;c1,0,0,4;c1,0,0,8;"), 2, 0, 1, 2);
+        // Only if the iron cools in another hand are all told: 8; 4 and 1; 2 and 7; 9 and 8 lets go at the last.
+        PokerEvening x = laid("t0,10;t0,40;f1;c0,0,0,8;c0,0,0,7;c0,0,0,8;c1,0,1,1;");
+        orderIs(x, 4, 0, 3, 1, 2);
+        // Asked again, once fewer can be told, and once all can be told in any order.
+        x.strike(3);
+        orderIs(x, 2, 0, 1, 2);
+        x.turn(0);
+        orderIs(x, 3, 0, 1, 2);
 
         says("Terms", "of several the first (by which CLAIM is first, the lowest ahead, then second, ..)");
         orderIs(laid("t0,40;f1;" + "c0,0,1,1;".repeat(7)), 7, 0, 1, 2, 3, 4, 5, 6);
@@ -882,8 +894,22 @@ public final class PokerEveningBounds {
             }
         }
 
+        // All else as it stands by then: another fact, another grip, a claim more.
+        PokerEvening x = laid("t0,9;t0,1;f0;c0,0,0,9;");
+        x.seen(0, 0);
+        x.drops(0);
+        due("kinds(0), by 1, 0, 1, 2", x.kinds(0), 0);
+        x.turn(0);
+        due("kinds(0), by 9, 4, 18, 10", x.kinds(0), 12);
+        x.grip(0, 8);
+        due("kinds(0), by a grip less", x.kinds(0), 13);
+        x.seen(1, 1);
+        due("kinds(0), of what is not so as yet", x.kinds(0), 0);
+        x.add(1, 0, 0, 2);
+        due("kinds(0), of what is so then", x.kinds(0), 13);
+
         says("Terms", "GRIPS (1 to 40) likewise: how many; the least; none");
-        PokerEvening x = laid("t2,20;t0,1;f1;c0,0,0,20;c0,0,1,1;");
+        x = laid("t2,20;t0,1;f1;c0,0,0,20;c0,0,1,1;");
         gripsSeenAre(x, 0, 40, 1);
         // 40 is held by 40 alone; 41 by none.
         x.seen(0, 0);
@@ -903,6 +929,13 @@ public final class PokerEveningBounds {
         gripsSeenAre(x, 0, 1, 1);
         x.forget();
         x.seen(0, 7);
+        gripsSeenAre(x, 0, 39, 2);
+        // All else as it stands by then.
+        x.turn(0);
+        gripsSeenAre(x, 0, 39, 2);
+        x.add(0, 0, 1, 20);
+        gripsSeenAre(x, 0, 19, 22);
+        x.undo();
         gripsSeenAre(x, 0, 39, 2);
     }
 
@@ -925,6 +958,16 @@ public final class PokerEveningBounds {
         for (int ten = 0; ten <= 10; ten++) {
             likelyIs(x, 0, ten, above[ten], below[ten]);
         }
+
+        // All else as it stands by then: whether the fact is so does not matter, a grip does.
+        x.turn(0);
+        likelyIs(x, 0, 3, 3, 10);
+        x.grip(0, 20);
+        likelyIs(x, 0, 3, 0, 1);
+        x.add(0, 0, 1, 20);
+        x.add(0, 0, 1, 1);
+        // 20 and 1, if it is so; 1 and 20, if not.
+        likelyIs(x, 0, 3, 1, 1);
 
         says("Terms", "how likely it LETS GO, in lowest terms");
         likelyIs(laid(LEAST), 0, 5, 0, 1);
@@ -1068,6 +1111,21 @@ public final class PokerEveningBounds {
         due("claim(0, 0), struck out", x.claim(0, 0), BAD);
         due("hot(0), struck out", x.hot(0), BAD);
         due("order(0), struck out", x.order(0), BAD);
+        // The second of the four tellers that there were would hold 20: it is there no more.
+        x = new PokerEvening();
+        x.grip(1, 40);
+        x.kinds(0);
+        rewrite(x, "t0,1;f1;c0,0,0,20;");
+        x.lay();
+        holdsIs(x, 0, 0, 1);
+        // Nor is the claim that is struck out, by which one would let go.
+        x = laid("t0,9;f1;c0,0,1,1;c0,0,0,20;");
+        x.strike(1);
+        leaveIs(x, 0, 0, 0);
+        orderIs(x, 1, 0);
+        due("told(), struck out", x.told(), 1);
+        due("hottest(), struck out", x.hottest(), 1);
+        likelyIs(x, 0, 10, 0, 1);
 
         says("Terms", "NO: not as things stand. NONE: there is none. FULL. Of several the first in this order; nothing changes then.");
         x = written("a".repeat(200));
