@@ -366,7 +366,7 @@ public final class PokerEveningRefusals {
     private static final View[] VIEWS = {PokerEveningRefusals::roomAndAnswers, PokerEveningRefusals::whatCanBeUndone,
         PokerEveningRefusals::whatIsKept, PokerEveningRefusals::theText};
     private static final String[] VIEW_NAMES = {"the room and its answers", "what can be undone", "what is kept", "the text"};
-    private static final int MOST_CALLS_OF_A_VIEW = 271;
+    private static final int MOST_CALLS_OF_A_VIEW = 260;
 
     private static void leavesAll(Scene scene, Named named, int[] numbers) {
         due("calls within " + MOST_CALLS, scene.calls + 1 + MOST_CALLS_OF_A_VIEW <= MOST_CALLS ? 0 : 1, 0);
