@@ -44,7 +44,9 @@ public final class PokerEveningFace {
         for (Class<?> each : classes) {
             members(each);
         }
-        source(Files.readString(Path.of("src/main/java/PokerEvening.java"), StandardCharsets.US_ASCII));
+        String written = Files.readString(Path.of("src/main/java/PokerEvening.java"), StandardCharsets.US_ASCII);
+        asInTheDocument(written, Files.readString(Path.of("../shared/DOC.md"), StandardCharsets.UTF_8));
+        source(written);
         System.out.println(wrong == 0 ? "the face is as due" : wrong + " things are not as due");
         if (wrong != 0) {
             System.exit(1);
@@ -79,6 +81,23 @@ public final class PokerEveningFace {
             }
         }
         must(constants.equals(CONSTANTS), "the constants of the face: " + constants);
+    }
+
+    /** The rows of the face stand in the class as the document has them, in its order, and no other is public. */
+    private static void asInTheDocument(String written, String document) {
+        Matcher face = Pattern.compile("(?s)```java\n(public final class .*?)```").matcher(document);
+        must(face.find(), "the document shows the face");
+        must(publicRows(written).equals(publicRows(face.group(1))), "the face is the document's: " + publicRows(written));
+    }
+
+    private static List<String> publicRows(String text) {
+        List<String> rows = new ArrayList<>();
+        for (String row : text.split("\n")) {
+            if (row.strip().startsWith("public ")) {
+                rows.add(row.strip().replaceAll("\\s*[;{]$", ""));
+            }
+        }
+        return rows;
     }
 
     private static void members(Class<?> type) {
