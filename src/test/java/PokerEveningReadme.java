@@ -73,9 +73,10 @@ public final class PokerEveningReadme {
             Files.writeString(source, program(examples));
             JavaCompiler compiler = ToolProvider.getSystemJavaCompiler();
             String classes = System.getProperty("java.class.path");
-            int code = compiler.run(null, null, null, "-cp", classes, "-d", folder.toString(), source.toString());
-            must(code == 0, "the examples compile");
-            if (code == 0) {
+            boolean compiled = compiler != null
+                    && compiler.run(null, null, null, "-cp", classes, "-d", folder.toString(), source.toString()) == 0;
+            must(compiled, "the examples compile");
+            if (compiled) {
                 runClass(folder);
             }
         } finally {
